@@ -38,10 +38,12 @@ public final class PromisesTest {
         promise4MovesTheWords();
         promise4Refuses();
         promise4Limit();
+        promise4AtTheLimit();
         promise5();
         promise5InTurn();
         promise5Limit();
         promise6();
+        promise6LeavesNothing();
     }
 
     private static void pamphlets() {
@@ -60,6 +62,7 @@ public final class PromisesTest {
         promises21To24();
         promises21To24Ties();
         promises21To24LongTexts();
+        promises23To29OneByOne();
         promise25();
         promise26();
         promises27To29();
@@ -80,6 +83,7 @@ public final class PromisesTest {
     private static void glossary() {
         promises41To43();
         promises41To43AfterErrata();
+        promises41To43ManyWords();
     }
 
     private static void buffer() {
@@ -94,6 +98,7 @@ public final class PromisesTest {
         promise48();
         promises49And50();
         promise50AndUndo();
+        promises47And50TheFirst();
     }
 
     private static String lettersOf(int count, String separator) {
@@ -272,6 +277,23 @@ public final class PromisesTest {
         Check.same("4: its changes all the same", 5, y.changesByTable(1, 1));
     }
 
+    private static void promise4AtTheLimit() {
+        PamphletQuarrel x = Picture.daily(SPACED,
+                quoteOf(22, 0) + " \"z z\"@0 " + quoteOf(14, 0) + " z z z z z y");
+        x.mend(1, 0);
+        x.mend(1, 2);
+        Check.same("4: sixty words", 60, x.wordsOf(1));
+        Picture.print(x, 0, "\"z y\"@1 \"z z\"@1");
+        Check.same("23 and 24: the end of sixty words", "0 0 at 58+2", Picture.passage(x, 2, 0));
+        Check.same("23 and 24: not the end", "0 0 at 32+2", Picture.passage(x, 2, 1));
+        Check.same("25: the last page", 7, x.pageOf(2, 0));
+        Check.same("4: shorter again", 2, x.mend(1, 1));
+        Check.same("4: 59 words", 59, x.wordsOf(1));
+        Check.same("4: the last word moves", "y", Picture.word(x, 1, 58));
+        Check.same("4: the next quotation moves", "@0 33+20", Picture.quotation(x, 1, 2));
+        Check.same("23 and 24: the end moves", "0 0 at 57+2", Picture.passage(x, 2, 0));
+    }
+
     private static void promise5() {
         PamphletQuarrel x = new PamphletQuarrel();
         Check.same("5: nothing to mend", 0, x.mendAll());
@@ -331,6 +353,27 @@ public final class PromisesTest {
         Check.same("6: the last one", 0, x.withdraw());
         PamphletQuarrel empty = x;
         Check.refuses("6: none are left", STATE, empty, empty::withdraw);
+    }
+
+    private static void promise6LeavesNothing() {
+        PamphletQuarrel x = Picture.daily("a b", "\"a\"@0");
+        Picture.print(x, 0, "\"a\"@1 b");
+        x.withdraw();
+        Runnable[] calls = {() -> x.authorOf(2), () -> x.dayOf(2), () -> x.wordsOf(2),
+            () -> x.pagesOf(2), () -> x.wordsOn(2, 0), () -> x.letterOf(2, 0, 0),
+            () -> x.isSameWord(2, 0, 0, 0), () -> x.isSameWord(0, 0, 2, 0),
+            () -> x.quotationsOf(2), () -> x.sourceOf(2, 0), () -> x.beginOf(2, 0),
+            () -> x.lengthOf(2, 0), () -> x.changesByTable(2, 0), () -> x.changesByPassages(2, 0),
+            () -> x.passageOf(2, 0), () -> x.passageLength(2, 0), () -> x.pageOf(2, 0),
+            () -> x.comesFrom(2, 0), () -> x.originOf(2, 0), () -> x.traceOf(2, 0),
+            () -> x.changesAtOrigin(2, 0), () -> x.quotedAgain(2, 0), () -> x.answers(2, 0),
+            () -> x.answers(0, 2), () -> x.ladderOf(2), () -> x.laddersOf(2),
+            () -> x.readingOf(2), () -> x.readAt(2, 0), () -> x.mend(2, 0)};
+        for (int i = 0; i < calls.length; i++) {
+            Check.refuses("6: withdrawn, call " + i, INDEX, calls[i]);
+        }
+        Check.same("30: withdrawn", 0, x.quotedAgain(1, 0));
+        Check.same("41 to 43: withdrawn", "a2 b1", Picture.glossary(x));
     }
 
     // ---- pamphlets
@@ -563,6 +606,29 @@ public final class PromisesTest {
         Check.same("21 to 24: mended", "0 0 at 3+47", Picture.passage(x, 2, 0));
     }
 
+    // Each call by itself, with calls about other quotations between.
+    private static void promises23To29OneByOne() {
+        PamphletQuarrel x = Picture.daily("a b c d e f g h i j", "k \"i j\"@0 \"b\"@0", "\"j\"@1");
+        Check.same("23: the first", 8, x.passageOf(1, 0));
+        Check.same("23: the second", 1, x.passageOf(1, 1));
+        Check.same("24: the first", 2, x.passageLength(1, 0));
+        Check.same("24: the second", 1, x.passageLength(1, 1));
+        Check.same("25: the first", 1, x.pageOf(1, 0));
+        Check.same("25: the second", 0, x.pageOf(1, 1));
+        Check.same("27: of another one", 0, x.originOf(2, 0));
+        Check.same("28: the first", 1, x.traceOf(1, 0));
+        Check.same("28: of another one", 2, x.traceOf(2, 0));
+        Check.same("29: the first", 0, x.changesAtOrigin(1, 0));
+        Check.same("23: after others", 1, x.passageOf(1, 1));
+        Check.same("27: after others", 0, x.originOf(1, 1));
+        Picture.print(x, 0, "\"k\"@1 \"j\"@1");
+        Check.same("27: itself", 1, x.originOf(3, 0));
+        Check.same("27: its source's source", 0, x.originOf(3, 1));
+        Check.same("27: itself again", 1, x.originOf(3, 0));
+        Check.same("29: through one", 0, x.changesAtOrigin(3, 1));
+        Check.same("29: itself", 0, x.changesAtOrigin(3, 0));
+    }
+
     private static void promise25() {
         PamphletQuarrel x = Picture.daily("a b c d e f g h i j k l m n o p q",
                 "\"h i\"@0 \"i\"@0 \"p q\"@0 \"q\"@0 \"a\"@0 \"zz\"@0");
@@ -620,7 +686,11 @@ public final class PromisesTest {
         Check.same("29: through nineteen", 0, x.changesAtOrigin(19, 0));
         Check.same("30: the last one", 0, x.quotedAgain(19, 0));
         Check.same("37: all twenty", 20, x.ladderOf(19));
+        Check.same("38: all twenty", 1, x.laddersOf(19));
         Check.same("39: all twenty", 20, x.readingOf(19));
+        Check.same("40: the first of twenty", 0, x.readAt(19, 0));
+        Check.same("40: the last of twenty", 19, x.readAt(19, 19));
+        Check.refuses("40: one behind twenty", INDEX, () -> x.readAt(19, 20));
     }
 
     private static void promise29AnyPassage() {
@@ -779,6 +849,20 @@ public final class PromisesTest {
         Check.same("43: the last", "z", Picture.entry(x, 25));
     }
 
+    private static void promises41To43ManyWords() {
+        PamphletQuarrel x = new PamphletQuarrel();
+        for (char first = 'h'; first >= 'e'; first--) {
+            Picture.print(x, 0, first + "a " + lettersOf(24, " " + first) + " " + first + "z a");
+        }
+        Check.same("42: asked before the others", 8, x.timesOf(0));
+        Check.same("43: asked before the others", (int) 'e', x.glossaryLetter(1, 0));
+        Check.same("41: many", 1 + 4 * 25, x.glossary());
+        Check.same("43: the second", "ea", Picture.entry(x, 1));
+        Check.same("43: the last", "hz", Picture.entry(x, 100));
+        Check.same("42: the last", 1, x.timesOf(100));
+        Check.refuses("42: behind the last", INDEX, () -> x.timesOf(101));
+    }
+
     // ---- the buffer
 
     private static void promise44() {
@@ -934,5 +1018,21 @@ public final class PromisesTest {
         x.undo();
         Check.same("47: back at the beginning", 0, x.pamphlets());
         Check.same("50: a snapshot is no saved state", 1, x.restoreSnapshot());
+    }
+
+    private static void promises47And50TheFirst() {
+        PamphletQuarrel x = new PamphletQuarrel();
+        x.pass(9);
+        Picture.print(x, 4, "a b");
+        x.takeSnapshot();
+        String taken = Picture.of(x);
+        x.undo();
+        x.undo();
+        Picture.print(x, 5, "c");
+        String other = Picture.of(x);
+        Check.same("50: one pamphlet", 1, x.restoreSnapshot());
+        Check.same("50: the first with its author and day", taken, Picture.of(x));
+        x.undo();
+        Check.same("47: the other first with its author and day", other, Picture.of(x));
     }
 }

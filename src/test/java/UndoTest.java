@@ -212,6 +212,21 @@ public final class UndoTest {
     }
 
     @Says(promise = 47, value = RESTORES)
+    private static void theFirstPamphletNotTheNextFirst() {
+        PamphletQuarrel x = new PamphletQuarrel();
+        Picture.print(x, 7, "a b");
+        x.withdraw();
+        x.pass(1);
+        Picture.print(x, 2, "c");
+        x.undo();
+        x.undo();
+        x.undo();
+        Check.same("the words", "a b", Picture.words(x, 0));
+        Check.same("the author", 7, x.authorOf(0));
+        Check.same("the day", 0, x.dayOf(0));
+    }
+
+    @Says(promise = 47, value = RESTORES)
     private static void notTheBuffer() {
         PamphletQuarrel x = Picture.daily("a");
         Picture.type(x, HUNDRED);
@@ -382,6 +397,24 @@ public final class UndoTest {
         x.undo();
         Check.same("the next one", "c", Picture.words(x, 1));
         Check.same("its author", 2, x.authorOf(1));
+    }
+
+    @Says(promise = 50, value = STAYS)
+    private static void staysWhenTheFirstPamphletIsAnother() {
+        PamphletQuarrel x = new PamphletQuarrel();
+        Picture.print(x, 7, "a b");
+        x.takeSnapshot();
+        x.withdraw();
+        x.pass(1);
+        Picture.print(x, 2, "c");
+        x.restoreSnapshot();
+        Check.same("the words", "a b", Picture.words(x, 0));
+        Check.same("the author", 7, x.authorOf(0));
+        Check.same("the day", 0, x.dayOf(0));
+        x.undo();
+        Check.same("the other words", "c", Picture.words(x, 0));
+        Check.same("the other author", 2, x.authorOf(0));
+        Check.same("the other day", 1, x.dayOf(0));
     }
 
     @Says(promise = 50, value = STAYS)

@@ -63,6 +63,7 @@ public final class UndoTest {
     private static void theCodes31And127() {
         Refused.argument(Stand::rich, x -> x.append(31), x -> x.append(127), x -> x.append(0),
                 x -> x.append(-1), x -> x.append(128), x -> x.append(97 + 256),
+                x -> x.append(97 + 65_536), x -> x.append(97 - 65_536),
                 x -> x.append(LOWEST), x -> x.append(HIGHEST));
         Refused.argument(PamphletQuarrel::new, x -> x.append(31), x -> x.append(127));
     }
@@ -248,6 +249,26 @@ public final class UndoTest {
         x.undo();
         Check.same("undo is not undone", 0, x.savedStates());
         Check.same("the day", 0, x.day());
+    }
+
+    @Says(promise = 47, value = RESTORES)
+    private static void savedAndUndoneByTurns() {
+        PamphletQuarrel x = new PamphletQuarrel();
+        int[] days = new int[60];
+        int top = 0;
+        for (int turn = 0; turn < 9; turn++) {
+            for (int i = 0; i < 4; i++) {
+                days[top + 1] = days[top] + turn + i + 1;
+                top++;
+                Check.same("passed", days[top], x.pass(turn + i + 1));
+            }
+            for (int i = 0; i < 3; i++) {
+                x.undo();
+                top--;
+                Check.same("undone", days[top], x.day());
+            }
+        }
+        Check.same("saved", 2, x.savedStates());
     }
 
     @Says(promise = 47, value = LEFT)

@@ -80,7 +80,7 @@ public final class AnswersTest {
     private static void theFirstAndTheLastQuotation() {
         PamphletQuarrel x = Picture.daily("a", quote("z", 0) + " " + quote("z z", 0),
                 Stand.times(quote("z", 0), 16), quote("z z z", 2));
-        Check.same("two pamphlets and one of 16", 1 + 2 + 16 + 0, x.blameOf(0));
+        Check.same("two pamphlets and one of 16", 19, x.blameOf(0));
         Picture.print(x, 0, quote("y y y y", 0));
         Check.same("of this day too", 23, x.blameOf(0));
         Picture.print(x, 1, quote("y y y y", 0));

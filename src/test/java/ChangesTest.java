@@ -386,11 +386,11 @@ public final class ChangesTest {
     private static void sixtyOneWords() {
         Check.same("words", 60, sixty().wordsOf(1));
         Check.same("changes", 1, sixty().changesByTable(1, 2));
-        PamphletQuarrel x = sixty();
-        Check.refuses("one more", IllegalStateException.class, () -> x.mend(1, 2));
-        Check.same("then", Picture.of(sixty()), Picture.of(x));
-        x.undo();
-        Check.same("words undone", 54, x.wordsOf(1));
+        Refused.stateOfManyWords(() -> {
+            PamphletQuarrel x = sixty();
+            x.takeSnapshot();
+            return Picture.type(x, "e f");
+        }, x -> x.mend(1, 2));
     }
 
     @Says(promise = 4, value = MEND_STATE)

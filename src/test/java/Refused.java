@@ -1,6 +1,7 @@
 import java.util.ArrayList;
 import java.util.List;
 import java.util.function.Consumer;
+import java.util.function.Function;
 import java.util.function.Supplier;
 
 /**
@@ -13,12 +14,20 @@ final class Refused {
 
     private final Supplier<PamphletQuarrel> made;
     private final Class<? extends RuntimeException> due;
+    private final Function<PamphletQuarrel, String> picture;
     private final List<String> twin;
 
-    private Refused(Supplier<PamphletQuarrel> made, Class<? extends RuntimeException> due) {
+    private Refused(Supplier<PamphletQuarrel> made, Class<? extends RuntimeException> due,
+            Function<PamphletQuarrel, String> picture) {
         this.made = made;
         this.due = due;
+        this.picture = picture;
         this.twin = pictures(x -> { });
+    }
+
+    /** As below, for quarrels of so many words that all answers would be more than 512 calls. */
+    static void stateOfManyWords(Supplier<PamphletQuarrel> made, Consumer<PamphletQuarrel> call) {
+        new Refused(made, IllegalStateException.class, Picture::of).one("the call", call);
     }
 
     @SafeVarargs
@@ -39,7 +48,7 @@ final class Refused {
     @SafeVarargs
     private static void all(Supplier<PamphletQuarrel> made, Class<? extends RuntimeException> due,
             Consumer<PamphletQuarrel>... calls) {
-        Refused refused = new Refused(made, due);
+        Refused refused = new Refused(made, due, Picture::whole);
         for (int i = 0; i < calls.length; i++) {
             refused.one("call " + i, calls[i]);
         }
@@ -74,17 +83,17 @@ final class Refused {
         return x;
     }
 
-    private static String undonePicture(PamphletQuarrel x, int undone) {
+    private String undonePicture(PamphletQuarrel x, int undone) {
         for (int i = 0; i < undone; i++) {
             if (Check.thrownBy(x::undo) != null) {
                 return "nothing to undo";
             }
         }
-        return Picture.whole(x);
+        return picture.apply(x);
     }
 
-    private static String restoredPicture(PamphletQuarrel x) {
-        return Check.thrownBy(x::restoreSnapshot) == null ? Picture.whole(x) : "no snapshot";
+    private String restoredPicture(PamphletQuarrel x) {
+        return Check.thrownBy(x::restoreSnapshot) == null ? picture.apply(x) : "no snapshot";
     }
 
     /** What is printed when the buffer has this behind it. */
